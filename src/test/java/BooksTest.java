@@ -75,6 +75,11 @@ public final class BooksTest {
         liesAre(x, 0, 3, 5, 2, 6, 2);
         liesAre(x, 2, 3, 5, 2, 6, 3, 7, 2, 8, 3, 9, 2);
         liesAre(x, 3, 0, 0, 5, 0, 5, 0, 5);
+        x = Check.shop("r00011 r00011 r00011 r00011 r00011 c00321");
+        liesAre(x, 0, 5, 0, 3, 3, 2);
+        Check.text(x, 1, "r00011");
+        x.shop(1);
+        liesAre(x, 2, 0, 0, 3, 3, 2);
     }
 
     private static void bookFinds(TheUsual x, int finding, int... pairs) {

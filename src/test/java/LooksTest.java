@@ -85,6 +85,9 @@ public final class LooksTest {
         Check.fraction("takes, asked", x, x.takes(0, 0, NONE), 40, 1);
         Check.fraction("takes, 0 laid out", x, x.takes(0, 0, 0), 9, 1);
         Check.fraction("takes, 1 laid out", x, x.takes(0, 0, 1), (59 + 3 * 69 + 2 * 9) / 2, 3);
+        TheUsual y = Check.shop("r00016 y00455");
+        Check.fraction("takes, told as it is", y, y.takes(0, 0, 4), 6 * 59 + 5 * 9, 11);
+        Check.fraction("likely, told as it is", y, y.likely(0, 0, 4), 5, 11);
         x.serve(1, 0);
         x.serve(1, 0);
         Check.fraction("takes, one known, asked", x, x.takes(0, 0, NONE), 35, 1);

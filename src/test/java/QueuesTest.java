@@ -121,6 +121,11 @@ public final class QueuesTest {
         int turns = x.count(3);
         x.order(2);
         Check.due("order is aside", x.count(3), turns);
+        x = Check.shop("r00011 r00011 r00011 r00011 r00011 r00011");
+        x.serve(5, 0);
+        x.serve(5, 0);
+        Check.due("order of six", x.order(0), 9 + 49 + 89 + 129 + 169);
+        Check.rowIs("order of six", x, 0, 5, 0, 1, 2, 3, 4);
         x = Check.shop("r00011");
         Check.due("order of one", x.order(0), 0);
         Check.rowIs("order of one", x, 0, 0);

@@ -97,6 +97,9 @@ public final class RowsTest {
         Check.due("copy none", x.copy(0, 0, 1, 0, 0), 1);
         Check.due("copy none from the ends", x.copy(0, 5, 1, 3, 0), 1);
         Check.rowIs("copy none", x, 1, 2, 3, 4);
+        x.row(2, 0);
+        Check.due("copy none of an empty one", x.copy(2, 0, 1, 3, 0), 1);
+        Check.due("copy none to an empty one", x.copy(1, 3, 2, 0, 0), 1);
         x.at(1, 0);
         x.copy(0, 0, 1, 0, 1);
         Check.due("copy leaves asked()", x.asked(), 2);
@@ -121,6 +124,9 @@ public final class RowsTest {
         Check.finds("copy max", x, 5, x.copy(0, 1, 1, 1, Integer.MAX_VALUE), 2);
         Check.finds("copy from max", x, 6, x.copy(0, Integer.MAX_VALUE, 1, 0, 1), 2);
         Check.finds("copy none from beyond", x, 7, x.copy(0, 4, 1, 0, 0), 2);
+        x.row(2, 40);
+        Check.finds("copy more than there are to a long one", x, 8, x.copy(0, 1, 2, 0, 3), 2);
+        Check.finds("copy one behind the last to a long one", x, 9, x.copy(0, 3, 2, 0, 1), 2);
         Check.rowIs("refused copies change nothing", x, 0, 1, 2, 3);
         Check.rowIs("refused copies change nothing", x, 1, 4, 5);
     }

@@ -120,8 +120,25 @@ public final class ToldTest {
         for (int what = 0; what < 10; what++) {
             Check.due("count(" + what + ")", x.count(what), counts[what]);
         }
+        countOfSixAndThenOne();
         Check.due("count(10)", x.count(10), TheUsual.BAD);
         Check.due("count(-1)", x.count(-1), TheUsual.BAD);
+    }
+
+    private static void countOfSixAndThenOne() {
+        TheUsual x = Check.shop("s00011 s00011 s00011 s00011 s00011 s00011");
+        for (int p = 0; p < 6; p++) {
+            x.serve(p, 0);
+            x.serve(p, 5);
+        }
+        Check.due("six known", x.count(4), 6);
+        Check.due("six times sour", x.count(5), 6);
+        Check.due("six silent", x.count(6), 6);
+        Check.text(x, 0, "r00011");
+        x.shop(0);
+        Check.due("then nobody known", x.count(4), 0);
+        Check.due("then nobody sour", x.count(5), 0);
+        Check.due("then nobody silent", x.count(6), 0);
     }
 
     private static void findings() {

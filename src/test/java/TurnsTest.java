@@ -10,6 +10,7 @@ public final class TurnsTest {
         undoMornings();
         keepAndOn();
         onIsAsKept();
+        keepWhatWasLaidOut();
         keepRefused();
         Check.end();
     }
@@ -180,6 +181,24 @@ public final class TurnsTest {
         Check.due("on(2): other may be set", x.other(0, 2), 5);
         Check.due("on(2) again", x.on(2), 0);
         Check.due("on(2) again: its other", x.wants(0, 3), 5);
+    }
+
+    private static void keepWhatWasLaidOut() {
+        TheUsual x = Check.shop("s00011 h00231");
+        int[] laid = {0, 5, TheUsual.NONE, 0, 3};
+        for (int thing : laid) {
+            x.serve(0, thing);
+            x.serve(1, 2);
+        }
+        x.keep(0);
+        long digest = x.digest();
+        x.undo(0);
+        x.serve(1, TheUsual.NONE);
+        x.on(0);
+        Check.due("on(0), unlike things laid out", x.digest(), digest);
+        x.undo(3);
+        Check.due("undo(3): sour", x.count(5), 1);
+        Check.due("undo(3): seconds", x.count(2), 27);
     }
 
     private static void keepRefused() {
