@@ -78,6 +78,7 @@ public final class RowsTest {
         Check.due("tear(0)", x.tear(0), 1);
         Check.due("tear(5)", x.tear(5), 1);
         Check.due("no rows", x.count(7), 0);
+        Check.due("as if they had never been", x.digest(), new TheUsual().digest());
         Check.finds("tear(0) again", x, 0, x.tear(0), 1);
         Check.finds("at a torn one", x, 1, x.at(0, 0), 1);
         Check.due("tear(6)", x.tear(6), TheUsual.BAD);

@@ -11,6 +11,7 @@ public final class TurnsTest {
         keepAndOn();
         onIsAsKept();
         keepWhatWasLaidOut();
+        keepSix();
         keepRefused();
         Check.end();
     }
@@ -199,6 +200,18 @@ public final class TurnsTest {
         x.undo(3);
         Check.due("undo(3): sour", x.count(5), 1);
         Check.due("undo(3): seconds", x.count(2), 27);
+    }
+
+    private static void keepSix() {
+        TheUsual x = Check.shop("r00001 r00011 r00021 r00031 r00041 r00051");
+        x.keep(2);
+        for (int p = 0; p < 6; p++) {
+            x.other(p, 5 - p);
+        }
+        x.on(2);
+        for (int p = 0; p < 6; p++) {
+            Check.due("on(2), six: its other", Check.asked(x, x.regular(p, 4)), p);
+        }
     }
 
     private static void keepRefused() {
