@@ -59,6 +59,15 @@ final class Check {
         return x.asked();
     }
 
+    /** The digest of values, as promise 43 says. */
+    static long digest(int... values) {
+        long h = 17;
+        for (int v : values) {
+            h = 31 * h + v;
+        }
+        return h;
+    }
+
     static void end() {
         System.out.println(wrong == 0 ? "all answers are as due" : wrong + " answers are not as due");
         if (wrong != 0) {

@@ -2,7 +2,8 @@ import java.util.Random;
 
 /** Runs of calls, by lots of fixed seeds, on the class and on the model: all answers must be the same. */
 public final class ModelTest {
-    private static final int RUNS = 1000, CALLS = 300;
+    /** An object is used for at most 512 calls; one round makes fewer than 80. */
+    private static final int RUNS = 5000, CALLS = 430;
     private static final int[] EDGES = {-1, -9, 6, 7, 41, 61, 999, 1000, 9999, 10000, -8,
         Integer.MIN_VALUE, Integer.MAX_VALUE, Integer.MAX_VALUE - 1};
 
@@ -10,6 +11,7 @@ public final class ModelTest {
     private final TheUsual x = new TheUsual();
     private final Model y = new Model();
     private final String run;
+    private int calls = 0;
 
     private ModelTest(int seed) {
         random = new Random(seed);
@@ -28,12 +30,14 @@ public final class ModelTest {
         if (random.nextInt(10) > 0) {
             newShop();
         }
-        for (int i = 0; i < CALLS; i++) {
+        while (calls < CALLS) {
             call(random.nextInt(6));
-            same("asked", x.asked(), y.asked);
-            same("upper", x.upper(), y.upper);
-            same("lower", x.lower(), y.lower);
-            same("finding", x.finding(), y.finding());
+            if (random.nextInt(2) == 0) {
+                same("asked", x.asked(), y.asked);
+                same("upper", x.upper(), y.upper);
+                same("lower", x.lower(), y.lower);
+                same("finding", x.finding(), y.finding());
+            }
             if (random.nextInt(8) == 0) {
                 same("digest", x.digest(), y.digest());
             }
@@ -45,6 +49,7 @@ public final class ModelTest {
     }
 
     private void same(String call, long got, long want) {
+        calls++;
         Check.due(run + call, got, want);
     }
 

@@ -165,16 +165,8 @@ public final class ToldTest {
         Check.due("finding() stays", x.finding(), 2);
     }
 
-    private static long digestOf(int... values) {
-        long h = 17;
-        for (int v : values) {
-            h = 31 * h + v;
-        }
-        return h;
-    }
-
     private static void digestOfNothing() {
-        Check.due("digest of nothing", new TheUsual().digest(), digestOf(
+        Check.due("digest of nothing", new TheUsual().digest(), Check.digest(
             0, 0, 0, 0, 0, 0, 0, 0, 0, 0,
             -1, -1, -1,
             -1, -1, -1, -1, -1, -1,
@@ -192,7 +184,7 @@ public final class ToldTest {
         x.row(5, 0);
         x.text(3, 2);
         x.put(3, 1, 200);
-        Check.due("digest of all", x.digest(), digestOf(
+        Check.due("digest of all", x.digest(), Check.digest(
             2, 1, 18, 4, 1, 2, 2, 2, 2, 1,
             1, 0, 1, 2, 3, 9, 1, 1, 2,
             4, 3, 2, 4, 5, 1, 2, 1, 5,
