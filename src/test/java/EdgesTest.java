@@ -51,6 +51,7 @@ public final class EdgesTest {
         counts();
         findings();
         digests();
+        theLastOf512Calls();
         Check.end();
     }
 
@@ -769,5 +770,14 @@ public final class EdgesTest {
             -1, -1, 0,
             -1, -1, -1, -1, -1, -1,
             6, 114, 48, 48, 48, 49, 49, -1, -1, 1, -128));
+    }
+
+    /** "An object is used for at most 512 calls after it has been made": the last of them is answered as the first. */
+    private static void theLastOf512Calls() {
+        TheUsual x = new TheUsual();
+        for (int calls = 1; calls <= 511; calls++) {
+            Check.due("tear(5)", x.tear(5), TheUsual.FINDING);
+        }
+        Check.due("findings(1), call 512", x.findings(1), 511);
     }
 }
