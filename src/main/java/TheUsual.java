@@ -386,9 +386,10 @@ public final class TheUsual {
         if (n > now.size) {
             return STATE;
         }
-        int best = 0;
-        int fewest = Integer.MAX_VALUE;
-        for (int set = 0; set < 1 << now.size; set++) {
+        // The first n are the least set of n: what comes behind it must be better to be taken.
+        int best = (1 << n) - 1;
+        int fewest = now.weekWith(best);
+        for (int set = best + 1; set < 1 << now.size; set++) {
             int week = now.weekWith(set);
             if (Integer.bitCount(set) == n && week < fewest) {
                 best = set;

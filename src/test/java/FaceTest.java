@@ -66,8 +66,15 @@ public final class FaceTest {
             names.add(method.getName());
         }
         Check.due("methods that are missing: " + due, due.size(), 0);
-        for (Method method : TheUsual.class.getDeclaredMethods()) {
-            boolean hides = Modifier.isPrivate(method.getModifiers()) && names.contains(method.getName());
+        privateNames(TheUsual.class, names);
+        for (Class<?> inside : TheUsual.class.getDeclaredClasses()) {
+            privateNames(inside, names);
+        }
+    }
+
+    private static void privateNames(Class<?> of, TreeSet<String> publicNames) {
+        for (Method method : of.getDeclaredMethods()) {
+            boolean hides = Modifier.isPrivate(method.getModifiers()) && publicNames.contains(method.getName());
             Check.due("private " + method.getName() + " bears a public name", hides ? 1 : 0, 0);
         }
     }

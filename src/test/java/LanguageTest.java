@@ -12,6 +12,10 @@ public final class LanguageTest {
         "\\btransient\\b", "\\bnative\\b", "\\bvar\\b", "\\bObject\\b", "\\bhashCode\\b", "\\btoString\\b",
         "Exact\\b", "\\bstatic\\s*\\{", "\\bfloat\\b", "\\bdouble\\b", "@"};
 
+    /** Of rule 4's library what a class without lists and texts can need: functions, no constants such as MAX_VALUE. */
+    private static final String LIBRARY = "(Math\\.(max|min|abs|floorDiv|floorMod)|Integer\\.(bitCount|compare|max|min)"
+        + "|System\\.arraycopy|Arrays\\.(copyOf|copyOfRange|fill))\\(";
+
     public static void main(String[] args) throws IOException {
         String place = System.getProperty("source", "src/main/java/TheUsual.java");
         String source = Files.readString(Path.of(place));
@@ -23,6 +27,7 @@ public final class LanguageTest {
         Check.due("classes that are not static", count(code, "(?<!static )(?<!static final )\\bclass\\b"), 1);
         Check.due("classes, at most 12", Math.max(count(code, "\\bclass\\b"), 12), 12);
         Check.due("static fields that are not final", count(code, "\\bstatic (?!final\\b)[^(){};]*[=;]"), 0);
+        library(code);
         signs(source);
         methods(source);
         Check.end();
@@ -35,6 +40,14 @@ public final class LanguageTest {
             found++;
         }
         return found;
+    }
+
+    /** Each name of a class with a point behind it is a use of the library, and rule 4 allows it. */
+    private static void library(String code) {
+        Matcher matcher = Pattern.compile("\\b[A-Z]\\w*\\.\\w+\\(?").matcher(code);
+        while (matcher.find()) {
+            Check.due("rule 4 allows " + matcher.group(), matcher.group().matches(LIBRARY) ? 1 : 0, 1);
+        }
     }
 
     private static void signs(String source) {

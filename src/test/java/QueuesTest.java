@@ -157,6 +157,10 @@ public final class QueuesTest {
         x = Check.shop("r00011 r00011 r00011 r00011 r00011 r00011");
         learnIs(x, 3, 7, 3 * 9 + 3 * 40);
         learnIs(x, 6, 63, 54);
+        // The best one stands first, second, last.
+        learnIs(Check.shop("r00012 h00011"), 1, 1, 40 + 2 * 9);
+        learnIs(Check.shop("r00011 h00012"), 1, 2, 40 + 2 * 9);
+        learnIs(Check.shop("r00011 r00011 r00011 r00011 r00011 r00012"), 1, 32, 5 * 40 + 2 * 9);
     }
 
     private static void learnRefused() {
